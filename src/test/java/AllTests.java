@@ -12,6 +12,8 @@ public final class AllTests {
         EyesTest.all();
         ImagesTest.all();
         SheetsTest.all();
+        ModelTest.all();
+        FormTest.all(args.length > 0 ? args[0] : "src/main/java/EightWires.java");
         if (!Check.finish()) {
             System.exit(1);
         }
