@@ -568,7 +568,7 @@ public final class EightWires {
             return BAD;
         }
         int found = n == 0 ? 0 : sheet.faultAs(lane);
-        int whole = n == 0 || found != 0 ? 0 : sheet.wholePairs(f, n);
+        int whole = found == 0 ? sheet.wholePairs(f, n) : 0;
         if (found == 0 && whole < n) {
             found = INDEX_FAULT;
         }

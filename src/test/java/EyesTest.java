@@ -111,6 +111,9 @@ final class EyesTest {
         // pairs whose numbers are far apart and near
         Check.see(x, 0, 64, 0, 128, 64, 1, 0, 1, 0, 64);
         values(x, 4, 7, 0, 4);
+        x.cut(0);
+        Check.see(x, 1, 2, 2);
+        values(x, 2, 1, 2, 2);
         EightWires y = new EightWires();
         y.see(400, 9);
         values(y, 1, 0, 9, 400);

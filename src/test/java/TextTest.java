@@ -190,6 +190,17 @@ final class TextTest {
         faulty("high 0;", 2, 0);
         faulty("states high 0 go hit;", 2, 0);
         faulty("stat high 0 go hit;", 2, 0);
+        faulty("z", 2, 0);
+        faulty("a 1;", 2, 0);
+        for (String name : new String[] {"xtate", "xeep", "xepth", "xhead", "statx", "keex", "deptx", "aheax", "state0x"}) {
+            faulty(name + " low 0 go hit;", 2, name.equals("state0x") ? 5 : 0);
+        }
+        for (String name : new String[] {"xigh", "xow", "xise", "xall", "xs", "xot", "xfter", "higx", "times", "go", "hit"}) {
+            faulty("keep " + name + " 1;", 2, 5);
+        }
+        faulty("state low 0 ximes 1 go hit;", 2, 12);
+        faulty("state low 0 xo hit;", 2, 12);
+        faulty("state low 0 go xit;", 2, 15);
         faulty("state", 2, 5);
         faulty("state   ", 2, 8);
         faulty("state go", 2, 6);
@@ -331,7 +342,11 @@ final class TextTest {
         Check.due("the trace stays", x.count(0), 3);
         Check.due("images stay", x.count(1), 1);
         Check.due("sheets stay", x.count(3), 5);
+        // what the first text told is gone for good
         Check.due("an empty text", x.text(), 0);
         Check.due("tells no states", x.rule(0), 0);
+        Check.due("tells no depth", x.rule(1), 100);
+        Check.due("tells no ahead", x.rule(2), 0);
+        Check.due("tells no keep", x.rule(3), 0);
     }
 }
