@@ -2,6 +2,8 @@
 final class Check {
     private static int passed = 0;
     private static int failed = 0;
+    // The words of the document that are under test, told with what fails.
+    private static String words = "";
 
     private Check() {
     }
@@ -11,8 +13,57 @@ final class Check {
             passed++;
         } else {
             failed++;
-            System.out.println(what + " answered " + got + ", due is " + want);
+            System.out.println(words + what + " answered " + got + ", due is " + want);
         }
+    }
+
+    static void words(String now) {
+        words = now;
+    }
+
+    /** How many answers were looked at so far. */
+    static int looked() {
+        return passed + failed;
+    }
+
+    /** Numbers that are not within bounds: right beside them, and as far off as an int goes. */
+    static int[] outside(int low, int high) {
+        int[] near = {low - 1, low - 2, low - 10, low - 256, low - 65536, high + 1, high + 2, high + 10, high + 256,
+            high + 65536, Integer.MIN_VALUE, Integer.MIN_VALUE + 1, Integer.MIN_VALUE + high, Integer.MAX_VALUE,
+            Integer.MAX_VALUE - 1, Integer.MAX_VALUE - 10};
+        return java.util.Arrays.stream(near).filter(n -> n < low || n > high).toArray();
+    }
+
+    /** A call with one number left open answers due for every number outside its bounds. */
+    static void refuses(String call, int low, int high, int due, java.util.function.IntUnaryOperator answer) {
+        for (int n : outside(low, high)) {
+            due(call + " with " + n, answer.applyAsInt(n), due);
+        }
+    }
+
+    /** An object with n samples of v. */
+    static EightWires level(int n, int v) {
+        EightWires x = new EightWires();
+        x.see(n, v);
+        return x;
+    }
+
+    /** A text on a new object is taken, with so many lines. */
+    static void lines(String text, int lines) {
+        EightWires x = new EightWires();
+        tape(x, text);
+        due("text '" + text + "'", x.text(), lines);
+        due("fault of '" + text + "'", x.fault(), 0);
+        due("tape behind '" + text + "'", x.count(2), 0);
+    }
+
+    /** A text on a new object has a fault at a place. */
+    static void faulty(String text, int fault, int place) {
+        EightWires x = new EightWires();
+        tape(x, text);
+        due("text '" + text + "'", x.text(), -10 - place);
+        due("fault of '" + text + "'", x.fault(), fault);
+        due("tape behind '" + text + "'", x.count(2), 0);
     }
 
     static boolean finish() {

@@ -79,37 +79,20 @@ final class TextTest {
         Check.due("feed behind the end", x.feed(0), 11);
     }
 
-    /** A text on a new object: what text() and fault() answer. */
-    private static void lines(String text, int lines) {
-        EightWires x = new EightWires();
-        Check.tape(x, text);
-        Check.due("text '" + text + "'", x.text(), lines);
-        Check.due("fault of '" + text + "'", x.fault(), 0);
-        Check.due("tape behind '" + text + "'", x.count(2), 0);
-    }
-
-    private static void faulty(String text, int fault, int place) {
-        EightWires x = new EightWires();
-        Check.tape(x, text);
-        Check.due("text '" + text + "'", x.text(), -10 - place);
-        Check.due("fault of '" + text + "'", x.fault(), fault);
-        Check.due("tape behind '" + text + "'", x.count(2), 0);
-    }
-
     private static void taken() {
-        lines("", 0);
-        lines("     ", 0);
-        lines("depth 1;", 1);
-        lines("depth 400;ahead 399;", 2);
-        lines("ahead 0;", 1);
-        lines("ahead 99;", 1);
-        lines("keep high 0;", 1);
-        lines("keep high 7 & is 255 & after 999;", 1);
-        lines("state high 0 go hit;", 1);
-        lines("state high 0 times 99 go 0;", 1);
-        lines("state is 0 go 1; depth 5; state not 255 go 0 | low 7 go hit | rise 3 times 1 go 1; ahead 4;", 4);
-        lines("state after 1 go 7;" + "state after 1 go hit;".repeat(7), 8);
-        lines("depth 007;", 1);
+        Check.lines("", 0);
+        Check.lines("     ", 0);
+        Check.lines("depth 1;", 1);
+        Check.lines("depth 400;ahead 399;", 2);
+        Check.lines("ahead 0;", 1);
+        Check.lines("ahead 99;", 1);
+        Check.lines("keep high 0;", 1);
+        Check.lines("keep high 7 & is 255 & after 999;", 1);
+        Check.lines("state high 0 go hit;", 1);
+        Check.lines("state high 0 times 99 go 0;", 1);
+        Check.lines("state is 0 go 1; depth 5; state not 255 go 0 | low 7 go hit | rise 3 times 1 go 1; ahead 4;", 4);
+        Check.lines("state after 1 go 7;" + "state after 1 go hit;".repeat(7), 8);
+        Check.lines("depth 007;", 1);
     }
 
     private static void ruleAndBranch() {
@@ -156,157 +139,157 @@ final class TextTest {
     }
 
     private static void blanks() {
-        lines("  depth   5  ;   ahead 4 ; ", 2);
-        lines("depth5;ahead4;", 2);
-        lines("state high0&low1times2go0|rise3go hit;", 1);
-        faulty("state high0&low1times2go0|rise3gohit;", 2, 31);
-        faulty("statehigh 0 go hit;", 2, 0);
-        faulty("depth\t5;", 1, 5);
-        faulty("depth 5;\n", 1, 8);
-        faulty("dep th 5;", 2, 0);
+        Check.lines("  depth   5  ;   ahead 4 ; ", 2);
+        Check.lines("depth5;ahead4;", 2);
+        Check.lines("state high0&low1times2go0|rise3go hit;", 1);
+        Check.faulty("state high0&low1times2go0|rise3gohit;", 2, 31);
+        Check.faulty("statehigh 0 go hit;", 2, 0);
+        Check.faulty("depth\t5;", 1, 5);
+        Check.faulty("depth 5;\n", 1, 8);
+        Check.faulty("dep th 5;", 2, 0);
     }
 
     private static void tokenFaults() {
-        faulty(".", 1, 0);
-        faulty("  .", 1, 2);
-        faulty("depth 5.", 1, 7);
-        faulty("1234", 1, 0);
-        faulty("depth 1234;", 1, 6);
-        faulty("depth 0005;", 1, 6);
-        faulty("Depth 5;", 1, 0);
-        faulty("state high 0 go hit;,", 1, 20);
-        faulty("depth -5;", 1, 6);
-        faulty("state `", 1, 6);
-        faulty("state {", 1, 6);
-        faulty("depth /", 1, 6);
-        faulty("depth :", 1, 6);
-        faulty("state high 0 go hit; 12345", 1, 21);
+        Check.faulty(".", 1, 0);
+        Check.faulty("  .", 1, 2);
+        Check.faulty("depth 5.", 1, 7);
+        Check.faulty("1234", 1, 0);
+        Check.faulty("depth 1234;", 1, 6);
+        Check.faulty("depth 0005;", 1, 6);
+        Check.faulty("Depth 5;", 1, 0);
+        Check.faulty("state high 0 go hit;,", 1, 20);
+        Check.faulty("depth -5;", 1, 6);
+        Check.faulty("state `", 1, 6);
+        Check.faulty("state {", 1, 6);
+        Check.faulty("depth /", 1, 6);
+        Check.faulty("depth :", 1, 6);
+        Check.faulty("state high 0 go hit; 12345", 1, 21);
     }
 
     private static void placeFaults() {
-        faulty("5", 2, 0);
-        faulty(";", 2, 0);
-        faulty("  & ", 2, 2);
-        faulty("high 0;", 2, 0);
-        faulty("states high 0 go hit;", 2, 0);
-        faulty("stat high 0 go hit;", 2, 0);
-        faulty("z", 2, 0);
-        faulty("a 1;", 2, 0);
+        Check.faulty("5", 2, 0);
+        Check.faulty(";", 2, 0);
+        Check.faulty("  & ", 2, 2);
+        Check.faulty("high 0;", 2, 0);
+        Check.faulty("states high 0 go hit;", 2, 0);
+        Check.faulty("stat high 0 go hit;", 2, 0);
+        Check.faulty("z", 2, 0);
+        Check.faulty("a 1;", 2, 0);
         for (String name : new String[] {"xtate", "xeep", "xepth", "xhead", "statx", "keex", "deptx", "aheax", "state0x"}) {
-            faulty(name + " low 0 go hit;", 2, name.equals("state0x") ? 5 : 0);
+            Check.faulty(name + " low 0 go hit;", 2, name.equals("state0x") ? 5 : 0);
         }
         for (String name : new String[] {"xigh", "xow", "xise", "xall", "xs", "xot", "xfter", "higx", "times", "go", "hit"}) {
-            faulty("keep " + name + " 1;", 2, 5);
+            Check.faulty("keep " + name + " 1;", 2, 5);
         }
-        faulty("state low 0 ximes 1 go hit;", 2, 12);
-        faulty("state low 0 xo hit;", 2, 12);
-        faulty("state low 0 go xit;", 2, 15);
-        faulty("state", 2, 5);
-        faulty("state   ", 2, 8);
-        faulty("state go", 2, 6);
-        faulty("state highs 0", 2, 6);
-        faulty("state high", 2, 10);
-        faulty("state high low", 2, 11);
-        faulty("state high;", 2, 10);
-        faulty("state high 0", 2, 12);
-        faulty("state high 0;", 2, 12);
-        faulty("state high 0 | ", 2, 13);
-        faulty("state high 0 &", 2, 14);
-        faulty("state high 0 & 1", 2, 15);
-        faulty("state high 0 times", 2, 18);
-        faulty("state high 0 times go", 2, 19);
-        faulty("state high 0 times 1 times 2", 2, 21);
-        faulty("state high 0 times 1 & low 1", 2, 21);
-        faulty("state high 0 go", 2, 15);
-        faulty("state high 0 go ;", 2, 16);
-        faulty("state high 0 go hits;", 2, 16);
-        faulty("state high 0 go hit", 2, 19);
-        faulty("state high 0 go hit |", 2, 21);
-        faulty("state high 0 go hit | ;", 2, 22);
-        faulty("state high 0 go hit & low 0", 2, 20);
-        faulty("state high 0 go 1 2;", 2, 18);
-        faulty("state ;", 2, 6);
-        faulty("keep;", 2, 4);
-        faulty("keep high 0", 2, 11);
-        faulty("keep high 0 go hit;", 2, 12);
-        faulty("keep high 0 times 2;", 2, 12);
-        faulty("keep high 0 | low 1;", 2, 12);
-        faulty("depth;", 2, 5);
-        faulty("depth 5", 2, 7);
-        faulty("depth 5   ", 2, 10);
-        faulty("depth 5 5;", 2, 8);
-        faulty("ahead hit;", 2, 6);
-        faulty("ahead 1 &", 2, 8);
-        faulty("depth 5;;", 2, 8);
+        Check.faulty("state low 0 ximes 1 go hit;", 2, 12);
+        Check.faulty("state low 0 xo hit;", 2, 12);
+        Check.faulty("state low 0 go xit;", 2, 15);
+        Check.faulty("state", 2, 5);
+        Check.faulty("state   ", 2, 8);
+        Check.faulty("state go", 2, 6);
+        Check.faulty("state highs 0", 2, 6);
+        Check.faulty("state high", 2, 10);
+        Check.faulty("state high low", 2, 11);
+        Check.faulty("state high;", 2, 10);
+        Check.faulty("state high 0", 2, 12);
+        Check.faulty("state high 0;", 2, 12);
+        Check.faulty("state high 0 | ", 2, 13);
+        Check.faulty("state high 0 &", 2, 14);
+        Check.faulty("state high 0 & 1", 2, 15);
+        Check.faulty("state high 0 times", 2, 18);
+        Check.faulty("state high 0 times go", 2, 19);
+        Check.faulty("state high 0 times 1 times 2", 2, 21);
+        Check.faulty("state high 0 times 1 & low 1", 2, 21);
+        Check.faulty("state high 0 go", 2, 15);
+        Check.faulty("state high 0 go ;", 2, 16);
+        Check.faulty("state high 0 go hits;", 2, 16);
+        Check.faulty("state high 0 go hit", 2, 19);
+        Check.faulty("state high 0 go hit |", 2, 21);
+        Check.faulty("state high 0 go hit | ;", 2, 22);
+        Check.faulty("state high 0 go hit & low 0", 2, 20);
+        Check.faulty("state high 0 go 1 2;", 2, 18);
+        Check.faulty("state ;", 2, 6);
+        Check.faulty("keep;", 2, 4);
+        Check.faulty("keep high 0", 2, 11);
+        Check.faulty("keep high 0 go hit;", 2, 12);
+        Check.faulty("keep high 0 times 2;", 2, 12);
+        Check.faulty("keep high 0 | low 1;", 2, 12);
+        Check.faulty("depth;", 2, 5);
+        Check.faulty("depth 5", 2, 7);
+        Check.faulty("depth 5   ", 2, 10);
+        Check.faulty("depth 5 5;", 2, 8);
+        Check.faulty("ahead hit;", 2, 6);
+        Check.faulty("ahead 1 &", 2, 8);
+        Check.faulty("depth 5;;", 2, 8);
     }
 
     private static void boundFaults() {
         for (String name : new String[] {"high", "low ", "rise", "fall"}) {
-            lines("keep " + name + " 7;", 1);
-            faulty("keep " + name + " 8;", 3, 10);
+            Check.lines("keep " + name + " 7;", 1);
+            Check.faulty("keep " + name + " 8;", 3, 10);
         }
-        lines("keep is 255;", 1);
-        faulty("keep is 256;", 3, 8);
-        lines("keep not 0;", 1);
-        faulty("keep not 256;", 3, 9);
-        faulty("keep after 0;", 3, 11);
-        lines("keep after 999;", 1);
-        faulty("state low 0 times 0 go hit;", 3, 18);
-        faulty("state low 0 times 100 go hit;", 3, 18);
-        lines("state low 0 times 99 go hit;", 1);
-        faulty("state low 0 go 8;", 3, 15);
-        faulty("depth 0;", 3, 6);
-        faulty("depth 401;", 3, 6);
-        faulty("depth 400; ahead 400;", 3, 17);
+        Check.lines("keep is 255;", 1);
+        Check.faulty("keep is 256;", 3, 8);
+        Check.lines("keep not 0;", 1);
+        Check.faulty("keep not 256;", 3, 9);
+        Check.faulty("keep after 0;", 3, 11);
+        Check.lines("keep after 999;", 1);
+        Check.faulty("state low 0 times 0 go hit;", 3, 18);
+        Check.faulty("state low 0 times 100 go hit;", 3, 18);
+        Check.lines("state low 0 times 99 go hit;", 1);
+        Check.faulty("state low 0 go 8;", 3, 15);
+        Check.faulty("depth 0;", 3, 6);
+        Check.faulty("depth 401;", 3, 6);
+        Check.faulty("depth 400; ahead 400;", 3, 17);
     }
 
     private static void twiceFaults() {
-        faulty("keep low 0; keep high 1;", 4, 12);
-        faulty("depth 3; keep low 0; depth 3;", 4, 21);
-        faulty("ahead 3; ahead .", 4, 9);
-        faulty("depth 100; depth", 4, 11);
-        faulty("keep low 0; state low 0 go hit;  keep", 4, 33);
+        Check.faulty("keep low 0; keep high 1;", 4, 12);
+        Check.faulty("depth 3; keep low 0; depth 3;", 4, 21);
+        Check.faulty("ahead 3; ahead .", 4, 9);
+        Check.faulty("depth 100; depth", 4, 11);
+        Check.faulty("keep low 0; state low 0 go hit;  keep", 4, 33);
     }
 
     private static void tooManyFaults() {
         String eight = "state low 0 go hit;".repeat(8);
-        lines(eight, 8);
-        faulty(eight + "state low 0 go hit;", 5, 152);
-        faulty(eight + " state .", 5, 153);
-        faulty(eight + "depth 5; state", 5, 161);
+        Check.lines(eight, 8);
+        Check.faulty(eight + "state low 0 go hit;", 5, 152);
+        Check.faulty(eight + " state .", 5, 153);
+        Check.faulty(eight + "depth 5; state", 5, 161);
         String three = "state low 0 go hit|low 1 go hit|low 2 go hit";
-        lines(three + ";", 1);
-        faulty(three + " | low 3 go hit;", 5, 45);
-        faulty(three + "|.", 5, 44);
-        lines("keep low 0 & low 1 & low 2;", 1);
-        faulty("keep low 0 & low 1 & low 2 & low 3;", 5, 27);
-        faulty("keep low 0 & low 1 & low 2 &", 5, 27);
-        faulty("state low 0 & low 1 & low 2 & .", 5, 28);
+        Check.lines(three + ";", 1);
+        Check.faulty(three + " | low 3 go hit;", 5, 45);
+        Check.faulty(three + "|.", 5, 44);
+        Check.lines("keep low 0 & low 1 & low 2;", 1);
+        Check.faulty("keep low 0 & low 1 & low 2 & low 3;", 5, 27);
+        Check.faulty("keep low 0 & low 1 & low 2 &", 5, 27);
+        Check.faulty("state low 0 & low 1 & low 2 & .", 5, 28);
         // the second branch may have three terms of its own
-        lines("state low 0 & low 1 & low 2 go hit | low 0 & low 1 & low 2 go hit;", 1);
+        Check.lines("state low 0 & low 1 & low 2 go hit | low 0 & low 1 & low 2 go hit;", 1);
     }
 
     private static void fittingFaults() {
-        faulty("state low 0 go 1;", 6, 17);
-        faulty("state low 0 go 1;  ", 6, 19);
-        lines("state low 0 go 1; state low 0 go 0;", 2);
-        faulty("state low 0 go 0; state low 0 go 1 | low 1 go 2;", 6, 48);
-        faulty("ahead 100;", 6, 10);
-        lines("ahead 100; depth 101;", 2);
-        faulty("ahead 5; depth 5;", 6, 17);
-        faulty("depth 4; ahead 5;", 6, 17);
-        lines("depth 1; ahead 0;", 2);
-        faulty("state low 0 go 7; ahead 200;", 6, 28);
+        Check.faulty("state low 0 go 1;", 6, 17);
+        Check.faulty("state low 0 go 1;  ", 6, 19);
+        Check.lines("state low 0 go 1; state low 0 go 0;", 2);
+        Check.faulty("state low 0 go 0; state low 0 go 1 | low 1 go 2;", 6, 48);
+        Check.faulty("ahead 100;", 6, 10);
+        Check.lines("ahead 100; depth 101;", 2);
+        Check.faulty("ahead 5; depth 5;", 6, 17);
+        Check.faulty("depth 4; ahead 5;", 6, 17);
+        Check.lines("depth 1; ahead 0;", 2);
+        Check.faulty("state low 0 go 7; ahead 200;", 6, 28);
     }
 
     private static void firstFault() {
-        faulty("depth 0 .", 3, 6);
-        faulty("depth 0", 3, 6);
-        faulty("state low 9 . ", 3, 10);
-        faulty("state low 0 go 5; .", 1, 18);
-        faulty("state low 0 go 5; keep", 2, 22);
-        faulty("ahead 300; ahead 2;", 4, 11);
-        faulty("dept 4; depth 0;", 2, 0);
+        Check.faulty("depth 0 .", 3, 6);
+        Check.faulty("depth 0", 3, 6);
+        Check.faulty("state low 9 . ", 3, 10);
+        Check.faulty("state low 0 go 5; .", 1, 18);
+        Check.faulty("state low 0 go 5; keep", 2, 22);
+        Check.faulty("ahead 300; ahead 2;", 4, 11);
+        Check.faulty("dept 4; depth 0;", 2, 0);
     }
 
     private static void faultKeeps() {
