@@ -20,6 +20,7 @@ public final class AllTests {
         PulseBounds.all();
         ByteBounds.all();
         ImageBounds.all();
+        GridTest.all();
         ModelTest.all();
         Sentences.all(Path.of(args.length > 1 ? args[1] : "../shared/DOC.md"));
         FormTest.all(args.length > 0 ? args[0] : "src/main/java/EightWires.java");

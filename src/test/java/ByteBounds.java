@@ -60,6 +60,15 @@ final class ByteBounds {
         // Low in sample 0 alone begins one; low in sample 1 without a fall does not.
         EightWires y = Check.level(400, 0);
         serial(y, 2, 0, 1);
+        // Of the wire itself, whatever the wires beside it are.
+        for (int w = 0; w < 8; w++) {
+            EightWires low = Check.level(19, 255 - (1 << w));
+            low.see(1, 255);
+            Check.due("wire " + w + " is low in sample 0", low.serial(w, 2, 0), 1);
+            EightWires other = Check.level(19, 1 << w);
+            other.see(1, 255);
+            Check.due("wire " + w + " is high in sample 0", other.serial(w, 2, 0) + other.serial(w, 2, 1), 0);
+        }
         // Each rate from the fastest to the slowest.
         for (int l = 2; l <= 50; l++) {
             serial(lowThenHigh(9 * l, 400), l, l <= 42 ? 1 : 0, 0);
@@ -333,6 +342,14 @@ final class ByteBounds {
                 Check.due("of none", none.seen(d[0], d[1], what), 0);
             }
         }
+        // Sample 0 has none ahead of it: whatever it is, it is no edge.
+        EightWires high = Check.level(1, 255);
+        high.see(2, 254);
+        int[] edges = {3, 1, 0};
+        for (int what = 0; what < 3; what++) {
+            Check.due("from a high sample 0 on", high.seen(1, 0, what), edges[what]);
+        }
+        Check.due("edges not seen", high.seen(3, 2, 2), 1);
         Sentences.promise(27, "BAD.");
         for (EightWires x : new EightWires[] {none, most}) {
             Check.refuses("seen k", 1, 400, BAD, k -> x.seen(k, 0, 0));

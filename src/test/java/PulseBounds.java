@@ -355,6 +355,10 @@ final class PulseBounds {
         setup(Check.wired(".....#...#.....#.", "...#####....##..#"), 1, 9, 1, 15);
         // Of equal ones the first.
         setup(Check.wired("...#....#....", "..###..###..."), 1, 3, 2, 3);
+        // The least there is: a later one that is as little, or that is more, is not the first.
+        setup(Check.wired(".##.##..#", "..####..."), 2, 4, 1, 1);
+        setup(Check.wired(".#.##..#.", ".#######."), 0, 1, 1, 7);
+        setup(Check.wired(".#.#.", ".#.#."), 0, 1, 1, 1);
         // Told of the second rise alone; of the first alone.
         setup(Check.wired(".#.#", "..##"), 1, 3, 1, 1);
         Sentences.promise(22, "BAD; NONE: none is told.");

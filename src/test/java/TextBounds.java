@@ -191,6 +191,18 @@ final class TextBounds {
         Check.faulty("depth 1000;", 1, 6);
         Check.faulty("dep th 5;", 2, 0);
         Check.faulty("state high 0 go hi t;", 2, 16);
+        // A sign is one byte, whatever stands right behind it.
+        Check.faulty("depth 7;7", 2, 8);
+        Check.faulty("depth 7;;", 2, 8);
+        Check.faulty("keep is 1&7", 2, 10);
+        Check.faulty("keep is 1&&", 2, 10);
+        Check.faulty("state is 1 go 0|7", 2, 16);
+        Check.faulty("state is 1 go 0||", 2, 16);
+        Check.lines("depth 7;ahead 6;keep is 1&is 2;", 3);
+        // A name is no longer than its letters, a number than its figures.
+        Check.faulty("x1234", 2, 0);
+        Check.faulty("depth x1", 2, 6);
+        Check.faulty("depth 1x", 2, 7);
         // Other blanks are none.
         for (char c : new char[] {9, 10, 11, 12, 13, 160, 0}) {
             Check.faulty("depth" + c + "5;", 1, 5);
@@ -416,6 +428,13 @@ final class TextBounds {
         Check.due("branches of 7", x.rule(17), 1);
         Check.due("number of 7", x.branch(7, 0, 20), 9);
         Check.due("branches of 8", x.rule(18), BAD);
+        // The last branch of the last state, with its last term.
+        EightWires y = Check.told("state is 0 go 0;".repeat(7) + "state is 1 go 0 | is 2 go 0 | is 3 & is 4 & is 5 times 99 go 7;");
+        Check.due("branches of state 7", y.rule(17), 3);
+        int[][] last = {{0, 3}, {1, 99}, {2, 7}, {10, 4}, {20, 3}, {12, 4}, {22, 5}};
+        for (int[] d : last) {
+            Check.due("the last branch: " + d[0], y.branch(7, 2, d[0]), d[1]);
+        }
         Check.lines("state is 0 go 0;".repeat(8), 8);
         Check.lines("state is 0 go 0 | is 0 go 0 | is 0 go 0;", 1);
         Check.lines("keep is 0 & is 0 & is 0;", 1);
@@ -602,6 +621,28 @@ final class TextBounds {
                 Check.due("branches of state 1", x.rule(11), BAD);
                 Check.same("trace, images, sheets", Portrait.held(x).toString(), Portrait.held(same).toString());
             }
+        }
+        texts();
+    }
+
+    /** Not only what the latest text told is gone, but what any of them told. */
+    private static void texts() {
+        EightWires x = new EightWires();
+        for (int n = 0; n < 3; n++) {
+            Check.tell(x, "depth 9; ahead 7; keep is 1 & is 2; state is 1 & is 2 times 5 go hit | is 3 go 0; state is 4 go 0;");
+            Check.tell(x, "depth 8; ahead 6; keep is 1; state is 1 times 5 go hit;");
+            for (int m = 0; m < 3; m++) {
+                Check.due("a text without lines", x.text(), 0);
+                int[] due = {0, 100, 0, 0};
+                for (int what = 0; what < 4; what++) {
+                    Check.due("rule " + what, x.rule(what), due[what]);
+                }
+                Check.due("no branch", x.branch(0, 0, 0), BAD);
+            }
+            Check.tell(x, "state is 7 go hit;");
+            Check.due("terms", x.branch(0, 0, 0), 1);
+            Check.due("times", x.branch(0, 0, 1), 1);
+            Check.due("one branch", x.rule(10), 1);
         }
     }
 

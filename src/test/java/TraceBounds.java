@@ -283,6 +283,11 @@ final class TraceBounds {
         run(v, 1, 8, 1, 2);
         Check.tell(v, "state is 2 go 0 | is 3 go 0 | is 1 go hit;");
         run(v, 0, 8, 0, 1);
+        // Three that only come, and three that do not; each counts by itself.
+        Check.tell(v, "state is 1 times 99 go 0 | is 1 times 98 go hit | is 1 times 99 go 0;");
+        run(v, 97, 8, 0, 98);
+        Check.tell(v, "state is 2 go 0 | is 3 go 0 | is 4 go hit;");
+        run(v, NONE, 0, 0, 400);
         // The run ends at the hit, wherever it is.
         EightWires last = Check.told("state is 9 go hit;");
         last.see(399, 1);
@@ -296,6 +301,10 @@ final class TraceBounds {
         EightWires far = Check.told("state is 1 go 7;" + "state is 0 go hit;".repeat(6) + "state is 1 go 7 | is 2 go hit;");
         Check.see(far, 1, 0, 1, 2);
         run(far, 3, 8, 2, 4);
+        // The last branch of the last state goes, too.
+        Check.tell(far, "state is 1 go 7;" + "state is 0 go hit;".repeat(6) + "state is 9 go 0 | is 8 go 0 | is 1 times 2 go hit;");
+        Check.see(far, 1, 1);
+        run(far, 4, 8, 1, 5);
     }
 
     private static void after() {
