@@ -44,18 +44,15 @@ final class TraceBounds {
     private static void samplesAndWires() {
         Sentences.terms("THE TRACE has SAMPLES, 400 at most (none at first): 0 to 255 each, bit w: WIRE w (0 to 7) is HIGH"
                 + " (else LOW).");
-        EightWires x = new EightWires();
-        Check.due("none at first", x.count(0), 0);
+        Check.due("none at first", new EightWires().count(0), 0);
         for (int w = 0; w < 8; w++) {
-            Check.see(x, 1 << w, 255 - (1 << w), 0, 255);
-        }
-        for (int w = 0; w < 8; w++) {
-            Check.tell(x, "keep high " + w + ";");
+            EightWires x = Check.told("keep high " + w + ";");
             EightWires y = Check.told("keep low " + w + ";");
             for (int i = 0; i < 32; i++) {
-                boolean own = i / 4 == w;
-                boolean high = i % 4 == 3 || (own ? i % 4 == 0 : i % 4 == 1);
-                int v = x.at(i);
+                // One wire alone is high, all but that one, none, all.
+                int v = new int[] {1 << i / 4, 255 - (1 << i / 4), 0, 255}[i % 4];
+                boolean high = i % 4 == 3 || (i / 4 == w ? i % 4 == 0 : i % 4 == 1);
+                x.see(1, v);
                 y.see(1, v);
                 Check.due("wire " + w + " of " + v + " is high", x.next(i) == i ? 1 : 0, high ? 1 : 0);
                 Check.due("wire " + w + " of " + v + " is low", y.next(i) == i ? 1 : 0, high ? 0 : 1);
