@@ -20,7 +20,7 @@ public final class EightWires {
     private static final int CAST_FAULT = 3;
     private static final int SIZE_FAULT = 4;
 
-    private final Tape tape = new Tape();
+    private final Reader reader = new Reader();
     private final Trace trace = new Trace();
     private final Trace before = new Trace();
     private final Trace[] images = {new Trace(), new Trace()};
@@ -31,8 +31,6 @@ public final class EightWires {
     private final Bytes bytes = new Bytes();
     private final Census census = new Census();
     private Rules told = new Rules();
-    private Rules spare = new Rules();
-    private final Reader reader = new Reader(tape, spare);
     private int textFault;
     private int readFault;
 
@@ -42,6 +40,7 @@ public final class EightWires {
     // ---- the text
 
     public int feed(long v) {
+        Tape tape = reader.tape;
         if (tape.size + 8 > MOST_BYTES) {
             return FULL;
         }
@@ -50,6 +49,7 @@ public final class EightWires {
     }
 
     public int end(int n) {
+        Tape tape = reader.tape;
         if (!within(n, 0, tape.size)) {
             return BAD;
         }
@@ -59,17 +59,15 @@ public final class EightWires {
     }
 
     public int text() {
-        // Read into the spare rules, so that a fault leaves the told ones as they were.
+        Tape tape = reader.tape;
         tape.split();
-        reader.readAll(spare);
+        reader.readAll();
         tape.size = 0;
         textFault = reader.fault;
         if (reader.fault != 0) {
             return -10 - reader.place;
         }
-        Rules old = told;
-        told = spare;
-        spare = old;
+        told = reader.exchange(told);
         return reader.lines;
     }
 
@@ -594,7 +592,7 @@ public final class EightWires {
             case 1:
                 return imagesKept();
             case 2:
-                return tape.size;
+                return reader.tape.size;
             case 3:
                 return cellsOfFirst();
             default:
@@ -1083,8 +1081,9 @@ public final class EightWires {
         private static final int TOO_MANY = 5;
         private static final int NOT_FITTING = 6;
 
-        private final Tape tape;
-        private Rules rules;
+        private final Tape tape = new Tape();
+        // Not the told rules, so that a fault leaves those as they were.
+        private Rules rules = new Rules();
         private int at;
         private int token;
         private int start;
@@ -1095,14 +1094,10 @@ public final class EightWires {
         private int place;
         private int lines;
 
-        Reader(Tape tape, Rules rules) {
-            this.tape = tape;
-            this.rules = rules;
-        }
-
-        void readAll(Rules into) {
-            begin(into);
-            for (lines = 0; lines < MOST_BYTES && fault == 0 && token != Tape.END; lines++) {
+        void readAll() {
+            begin();
+            for (int n = 0; n < MOST_BYTES && fault == 0 && token != Tape.END; n++) {
+                lines++;
                 switch (token) {
                     case Tape.STATE_NAME:
                         readState();
@@ -1126,13 +1121,20 @@ public final class EightWires {
             }
         }
 
-        private void begin(Rules into) {
-            rules = into;
+        /** Gives what was read for rules that are told no more: none need be made for the next text. */
+        Rules exchange(Rules old) {
+            Rules latest = rules;
+            rules = old;
+            return latest;
+        }
+
+        private void begin() {
             rules.forget();
             depthTold = false;
             aheadTold = false;
             fault = 0;
             place = 0;
+            lines = 0;
             at = -1;
             advance();
         }

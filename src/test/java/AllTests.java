@@ -1,6 +1,6 @@
 import java.nio.file.Path;
 
-/** Every test of the project; its arguments are the paths of EightWires.java and of DOC.md. */
+/** Every test of the project; its arguments are the paths of EightWires.java, DOC.md and README.md. */
 public final class AllTests {
     private AllTests() {
     }
@@ -21,9 +21,12 @@ public final class AllTests {
         ByteBounds.all();
         ImageBounds.all();
         GridTest.all();
+        SweepTest.all();
         ModelTest.all();
-        Sentences.all(Path.of(args.length > 1 ? args[1] : "../shared/DOC.md"));
-        FormTest.all(args.length > 0 ? args[0] : "src/main/java/EightWires.java");
+        Path document = Path.of(args.length > 1 ? args[1] : "../shared/DOC.md");
+        Sentences.all(document);
+        FormTest.all(Path.of(args.length > 0 ? args[0] : "src/main/java/EightWires.java"), document);
+        ReadmeTest.all(Path.of(args.length > 2 ? args[2] : "README.md"));
         if (!Check.finish()) {
             System.exit(1);
         }

@@ -14,28 +14,61 @@ import java.util.regex.Pattern;
 
 /** The face that the document tells, and what of LANGUAGE.md can be seen without reading the code. */
 final class FormTest {
-    private static final String FACE = "feed(long) end(int) text() fault() rule(int) branch(int,int,int) see(int,int)"
-            + " cut(int) at(int) put(int,int) run(int) state(int) stored(int) next(int) edges(int,boolean)"
-            + " edge(int,boolean,int) pulse(int,int,int) duty(int,int) shorter(int,int) smooth(int)"
-            + " setup(int,int,int) tight(int,int,int,int) bits(int,int,int,int) serial(int,int,int) rate(int,int)"
-            + " seen(int,int,int) widest() runs() fills(int,int) values(int) keep(int) back(int) unlike(int,int)"
-            + " shift(int,int) sheet(int,int,int) lay(int,int,int) read(int,int,int,int) torn() count(int)";
-
     private FormTest() {
     }
 
-    static void all(String path) throws Exception {
-        face();
+    static void all(Path path, Path document) throws Exception {
+        String text = Files.readString(path);
+        String told = Files.readString(document);
+        face(toldFace(told));
+        order(text, told);
         classesInside();
-        source(Files.readString(Path.of(path)));
+        source(text);
         room();
+    }
+
+    /** The methods that the document's face has, such as "edges(int,boolean)". */
+    private static Set<String> toldFace(String told) {
+        String block = told.substring(told.indexOf("```java"));
+        block = block.substring(0, block.indexOf("}"));
+        Set<String> methods = new TreeSet<>();
+        Matcher m = Pattern.compile("public int (\\w+)\\((.*)\\);").matcher(block);
+        while (m.find()) {
+            methods.add(m.group(1) + "(" + m.group(2).replaceAll("(\\w+) \\w+", "$1").replace(" ", "") + ")");
+        }
+        Check.due("methods of the document's face", methods.size(), 39);
+        yes("the constants are told", block.contains("public static final int BAD = -1, STATE = -2, FULL = -3, NONE = -4;"));
+        yes("the constructor is told", block.contains("public EightWires();"));
+        return methods;
+    }
+
+    /** Under the heads that the document tells stand the calls that it tells, in its order. */
+    private static void order(String text, String told) {
+        StringBuilder due = new StringBuilder();
+        Matcher heads = Pattern.compile("Ahead of the calls (.*) the interface says: ---- (.*)\\.").matcher(told);
+        while (heads.find()) {
+            due.append(heads.group(2)).append(": ").append(heads.group(1).replace("`", "").replace(",", "")).append("; ");
+        }
+        StringBuilder found = new StringBuilder();
+        Matcher lines = Pattern.compile("\\n    (?:// ---- (.*)|public int (\\w+)\\(.*)").matcher(text);
+        String between = "";
+        while (lines.find()) {
+            if (lines.group(1) == null) {
+                found.append(between).append(lines.group(2));
+                between = " ";
+            } else if (!lines.group(1).equals("what several calls share")) {
+                found.append(found.length() == 0 ? "" : "; ").append(lines.group(1)).append(":");
+                between = " ";
+            }
+        }
+        Check.same("heads and calls", found.append("; ").toString(), due.toString());
     }
 
     private static void yes(String what, boolean so) {
         Check.due(what, so ? 1 : 0, 1);
     }
 
-    private static void face() {
+    private static void face(Set<String> told) {
         Set<String> found = new TreeSet<>();
         for (Method m : EightWires.class.getDeclaredMethods()) {
             String parameters = String.join(",",
@@ -48,7 +81,7 @@ final class FormTest {
                 yes(m.getName() + " is private", Modifier.isPrivate(m.getModifiers()));
             }
         }
-        Check.same("the methods", found.toString(), new TreeSet<>(Arrays.asList(FACE.split(" "))).toString());
+        Check.same("the methods", found.toString(), told.toString());
         Set<String> constants = new TreeSet<>();
         for (Field f : EightWires.class.getDeclaredFields()) {
             if (Modifier.isPublic(f.getModifiers())) {
@@ -101,7 +134,7 @@ final class FormTest {
 
     private static void source(String text) {
         String code = text.replaceAll("/\\*(?s:.*?)\\*/", "").replaceAll("//[^\n]*", "").replaceAll("\"[^\"\n]*\"", "\"\"");
-        String[] words = {"throw", "throws", "try", "catch", "finally", "synchronized", "assert", "package", "protected",
+        String[] words = {"this", "throw", "throws", "try", "catch", "finally", "synchronized", "assert", "package", "protected",
             "volatile", "native", "Object", "Exception", "var", "yield", "hashCode", "toString"};
         for (String word : words) {
             yes("no " + word, !Pattern.compile("\\b" + word + "\\b").matcher(code).find());
@@ -114,6 +147,8 @@ final class FormTest {
         while (imports.find()) {
             Check.same("import", imports.group(1), "java.util.Arrays");
         }
+        // An object whose parts make nothing with what is handed to them hands out nothing while it is made.
+        yes("own classes are made of nothing", !Pattern.compile("\\bnew [A-Z]\\w*\\([^)]").matcher(code).find());
         yes("ASCII alone", text.chars().allMatch(c -> c == '\n' || c >= ' ' && c < 127));
         shortMethods(code);
     }

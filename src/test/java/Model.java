@@ -6,6 +6,8 @@ import java.util.List;
 import java.util.Map;
 import java.util.Set;
 import java.util.TreeMap;
+import java.util.regex.Matcher;
+import java.util.regex.Pattern;
 
 /** The document once more, written as plainly as can be and without regard to speed, to compare answers with. */
 final class Model {
@@ -30,6 +32,8 @@ final class Model {
         private final int place;
 
         Fault(int code, int place) {
+            // Without the trace of calls, which takes the most time.
+            super(null, null, false, false);
             this.code = code;
             this.place = place;
         }
@@ -37,6 +41,8 @@ final class Model {
 
     /** Reads a text by descent and stops at the first fault by a throw. */
     private static final class Parser {
+        private static final Pattern TOKEN = Pattern.compile("[a-z]+|([0-9]+)|[;|&]");
+
         private final String text;
         private int start;
         private String token;
@@ -55,22 +61,14 @@ final class Model {
                 i++;
             }
             start = i;
-            String rest = text.substring(i);
-            if (rest.isEmpty()) {
+            Matcher m = TOKEN.matcher(text).region(i, text.length());
+            if (i == text.length()) {
                 token = "";
-                return;
+            } else if (m.lookingAt() && (m.group(1) == null || m.group(1).length() <= 3)) {
+                token = m.group();
+            } else {
+                throw new Fault(1, start);
             }
-            for (String kind : new String[] {"[a-z]+", "[0-9]+", "[;|&]"}) {
-                java.util.regex.Matcher m = java.util.regex.Pattern.compile(kind).matcher(rest);
-                if (m.lookingAt()) {
-                    token = m.group();
-                    if (kind.equals("[0-9]+") && token.length() > 3) {
-                        throw new Fault(1, start);
-                    }
-                    return;
-                }
-            }
-            throw new Fault(1, start);
         }
 
         private void shift() {
@@ -85,7 +83,7 @@ final class Model {
         }
 
         private int number(int low, int high) {
-            if (!token.matches("[0-9]+")) {
+            if (token.isEmpty() || !Character.isDigit(token.charAt(0))) {
                 throw new Fault(2, start);
             }
             int n = Integer.parseInt(token);
